@@ -501,7 +501,8 @@ public final class GrievingCamels {
     public int plan(int n) throws IllegalArgumentException {
         need(n >= 0 && n <= tape.fed && n <= MOST_PLAN_BYTES);
         tape.open(n);
-        boolean good = sparePlan.readFrom(tape, land);
+        sparePlan.forget();
+        boolean good = sparePlan.readSteps(tape, land, 0);
         tape.close();
         if (!good) {
             return tape.faultKind - 10;
@@ -687,7 +688,10 @@ public final class GrievingCamels {
         return NONE;
     }
 
-    /** The bytes that were fed, and a reader of the first ones of them as a text. */
+    /**
+     * The bytes that were fed, and a reader of the first ones of them as a text. The reader stands
+     * on the first byte that is no blank behind all that it has read.
+     */
     private static final class Tape {
         private static final int MOST_BYTES = 600;
         private static final int BLANK = 32;
@@ -699,6 +703,7 @@ public final class GrievingCamels {
         int length = 0;
         int at = 0;
         int wordFrom = 0;
+        int wordEnd = 0;
         int numberFrom = 0;
         int faultKind = 0;
         int faultAt = NONE;
@@ -717,10 +722,11 @@ public final class GrievingCamels {
         }
 
         void open(int n) {
-            length = n;
+            length = Math.max(0, Math.min(n, fed));
             at = 0;
             faultKind = 0;
             faultAt = NONE;
+            skipBlanks();
         }
 
         void close() {
@@ -734,7 +740,6 @@ public final class GrievingCamels {
         }
 
         boolean failHere(int kind) {
-            skipBlanks();
             return fail(kind, at);
         }
 
@@ -747,52 +752,50 @@ public final class GrievingCamels {
         }
 
         boolean hasEnded() {
-            skipBlanks();
             return at >= length;
         }
 
         boolean isSign(int sign) {
-            skipBlanks();
-            return byteAt(at) == sign;
+            return at < length && bytes[at] == sign;
         }
 
         boolean takesSign(int sign) {
-            boolean there = isSign(sign);
-            if (there) {
-                at++;
+            if (at >= length || bytes[at] != sign) {
+                return false;
             }
-            return there;
+            at++;
+            skipBlanks();
+            return true;
         }
 
         boolean needsSign(int sign) {
-            return takesSign(sign) || failHere(FAULT_SIGN);
+            return takesSign(sign) || fail(FAULT_SIGN, at);
         }
 
         boolean startsNumber() {
-            skipBlanks();
-            return isDigit(byteAt(at));
+            return at < length && bytes[at] >= '0' && bytes[at] <= '9';
         }
 
         boolean startsWord() {
-            skipBlanks();
-            return isLetter(byteAt(at));
+            return at < length && bytes[at] >= 'a' && bytes[at] <= 'z';
         }
 
         /** The word is empty where no letter stands: then it is none of those that are asked for. */
         void readWord() {
-            skipBlanks();
             wordFrom = at;
-            while (at < length && isLetter(byteAt(at))) {
+            while (at < length && bytes[at] >= 'a' && bytes[at] <= 'z') {
                 at++;
             }
+            wordEnd = at;
+            skipBlanks();
         }
 
         boolean wordIs(String text) {
-            if (at - wordFrom != text.length()) {
+            if (wordEnd - wordFrom != text.length()) {
                 return false;
             }
             for (int i = 0; i < text.length(); i++) {
-                if (byteAt(wordFrom + i) != text.charAt(i)) {
+                if (bytes[wordFrom + i] != text.charAt(i)) {
                     return false;
                 }
             }
@@ -801,39 +804,28 @@ public final class GrievingCamels {
 
         /** NONE behind a fault. */
         int readNumber(int least, int most) {
-            if (!startsNumber()) {
-                failHere(FAULT_SIGN);
-                return NONE;
-            }
             numberFrom = at;
             int number = 0;
-            while (at < length && isDigit(byteAt(at))) {
-                number = Math.min(number * 10 + byteAt(at) - '0', FAR_NUMBER);
+            while (at < length && bytes[at] >= '0' && bytes[at] <= '9') {
+                number = Math.min(number * 10 + bytes[at] - '0', FAR_NUMBER);
                 at++;
             }
-            if (number < least || number > most) {
-                failAtNumber(FAULT_NUMBER);
+            if (at == numberFrom) {
+                fail(FAULT_SIGN, numberFrom);
                 return NONE;
             }
+            if (number < least || number > most) {
+                fail(FAULT_NUMBER, numberFrom);
+                return NONE;
+            }
+            skipBlanks();
             return number;
         }
 
         private void skipBlanks() {
-            while (at < length && byteAt(at) == BLANK) {
+            while (at < length && bytes[at] == BLANK) {
                 at++;
             }
-        }
-
-        private int byteAt(int i) {
-            return i >= 0 && i < length && i < MOST_BYTES ? bytes[i] : NONE;
-        }
-
-        private boolean isDigit(int sign) {
-            return sign >= '0' && sign <= '9';
-        }
-
-        private boolean isLetter(int sign) {
-            return sign >= 'a' && sign <= 'z';
         }
     }
 
@@ -864,11 +856,11 @@ public final class GrievingCamels {
             emit(FIRST_VALUE + MOST);
         }
 
-        boolean readFrom(Tape tape) {
+        void forget() {
             length = 0;
-            return readSum(tape, 0);
         }
 
+        /** Open: how many of ( are open. */
         private boolean readSum(Tape tape, int open) {
             if (!readProduct(tape, open)) {
                 return false;
@@ -982,17 +974,12 @@ public final class GrievingCamels {
                     }
                 } else if (top >= 2) {
                     top--;
-                    stack[top - 1] = join(code, stack[top - 1], stack[top]);
+                    int left = stack[top - 1];
+                    int right = stack[top];
+                    stack[top - 1] = code == PLUS ? left + right : code == MINUS ? left - right : left * right;
                 }
             }
             return top > 0 ? stack[0] : 0;
-        }
-
-        private int join(int code, int left, int right) {
-            if (code == PLUS) {
-                return left + right;
-            }
-            return code == MINUS ? left - right : left * right;
         }
     }
 
@@ -1059,7 +1046,9 @@ public final class GrievingCamels {
                 case HURT: return readHurt(tape);
                 case CALF: return readCalf(tape);
                 case QUARREL: return readQuarrel(tape);
-                default: return law.readFrom(tape);
+                default:
+                    law.forget();
+                    return law.readSum(tape, 0);
             }
         }
 
@@ -1180,11 +1169,11 @@ public final class GrievingCamels {
             return other;
         }
 
-        int readPlaceName(Tape tape) {
+        private int readPlaceName(Tape tape) {
             return tape.readNumber(0, places - 1);
         }
 
-        int readCamelName(Tape tape) {
+        private int readCamelName(Tape tape) {
             return tape.readNumber(0, camels - 1);
         }
 
@@ -1630,9 +1619,8 @@ public final class GrievingCamels {
         final int[] nexts = new int[MOST_STEPS];
         final int[] inners = new int[MOST_STEPS];
         final int[] others = new int[MOST_STEPS];
-        /** Where the terms of a step's test begin, where its right side does, where they end. */
+        /** Where the terms of a step's test begin, and where they end. */
         final int[] testFrom = new int[MOST_STEPS];
-        final int[] testMiddle = new int[MOST_STEPS];
         final int[] testEnd = new int[MOST_STEPS];
         final int[] relations = new int[MOST_STEPS];
         final int[] termKinds = new int[MOST_TERMS];
@@ -1644,11 +1632,6 @@ public final class GrievingCamels {
         void forget() {
             steps = 0;
             terms = 0;
-        }
-
-        boolean readFrom(Tape tape, Land land) {
-            forget();
-            return readSteps(tape, land, 0);
         }
 
         /** Reads steps to the end of the block, or of the text if no block is open. */
@@ -1696,10 +1679,7 @@ public final class GrievingCamels {
         }
 
         private int readNumberOf(Tape tape, Land land, int kind) {
-            if (kind == GO) {
-                return land.readPlaceName(tape);
-            }
-            return kind == WAIT ? tape.readNumber(0, 99) : land.readCamelName(tape);
+            return tape.readNumber(0, kind == GO ? land.places - 1 : kind == WAIT ? 99 : land.camels - 1);
         }
 
         private boolean readNested(Tape tape, Land land, int step, int open) {
@@ -1738,36 +1718,41 @@ public final class GrievingCamels {
             return tape.needsSign('[') && readSteps(tape, land, open + 1);
         }
 
+        /** A test is kept as its left side less its right side. */
         private boolean readTest(Tape tape, Land land, int step) {
             testFrom[step] = terms;
-            if (!readSide(tape, land)) {
-                return false;
-            }
-            testMiddle[step] = terms;
-            int relation = tape.takesSign('<') ? '<' : tape.takesSign('>') ? '>' : tape.takesSign('=') ? '=' : NONE;
-            if (relation < 0) {
-                return tape.failHere(FAULT_SIGN);
-            }
-            relations[step] = relation;
-            if (!readSide(tape, land)) {
-                return false;
-            }
-            testEnd[step] = terms;
-            return true;
-        }
-
-        private boolean readSide(Tape tape, Land land) {
+            relations[step] = NONE;
+            int side = 1;
             int sign = 1;
             for (int i = 0; i < MOST_TERMS; i++) {
-                if (!readTerm(tape, land, sign)) {
+                if (!readTerm(tape, land, side * sign)) {
                     return false;
                 }
                 sign = tape.takesSign('+') ? 1 : tape.takesSign('-') ? -1 : 0;
-                if (sign == 0) {
+                if (sign == 0 && relations[step] >= 0) {
+                    testEnd[step] = terms;
                     return true;
+                }
+                if (sign == 0) {
+                    relations[step] = readRelation(tape);
+                    if (relations[step] < 0) {
+                        return tape.failHere(FAULT_SIGN);
+                    }
+                    side = -1;
+                    sign = 1;
                 }
             }
             return tape.failHere(FAULT_MANY);
+        }
+
+        private int readRelation(Tape tape) {
+            if (tape.takesSign('<')) {
+                return '<';
+            }
+            if (tape.takesSign('>')) {
+                return '>';
+            }
+            return tape.takesSign('=') ? '=' : NONE;
         }
 
         private boolean readTerm(Tape tape, Land land, int sign) {
@@ -1782,7 +1767,7 @@ public final class GrievingCamels {
                     return tape.failAtWord(FAULT_SIGN);
                 }
                 if (kind == GRIEF) {
-                    number = land.readCamelName(tape);
+                    number = tape.readNumber(0, land.camels - 1);
                 }
             }
             if (number < 0) {
@@ -1977,21 +1962,15 @@ public final class GrievingCamels {
         }
 
         private boolean isSo(int step) {
-            int left = sumOf(plan.testFrom[step], plan.testMiddle[step]);
-            int right = sumOf(plan.testMiddle[step], plan.testEnd[step]);
+            int more = 0;
+            for (int i = plan.testFrom[step]; i < plan.testEnd[step]; i++) {
+                more += plan.termSigns[i] * valueOf(plan.termKinds[i], plan.termNumbers[i]);
+            }
             switch (plan.relations[step]) {
-                case '<': return left < right;
-                case '>': return left > right;
-                default: return left == right;
+                case '<': return more < 0;
+                case '>': return more > 0;
+                default: return more == 0;
             }
-        }
-
-        private int sumOf(int from, int end) {
-            int sum = 0;
-            for (int i = from; i < end; i++) {
-                sum += plan.termSigns[i] * valueOf(plan.termKinds[i], plan.termNumbers[i]);
-            }
-            return sum;
         }
 
         private int valueOf(int kind, int number) {
