@@ -1161,7 +1161,7 @@ public final class GrievingCamels {
         }
 
         private int readOtherCamel(Tape tape, int camel) {
-            int other = readCamelName(tape);
+            int other = tape.readNumber(0, camels - 1);
             if (other == camel) {
                 tape.failAtNumber(FAULT_NUMBER);
                 return NONE;
@@ -1890,6 +1890,8 @@ public final class GrievingCamels {
                     runAgain(step, deep);
                 } else if (kind == Plan.IF) {
                     runSteps(isSo(step) ? plan.inners[step] : plan.others[step], deep + 1);
+                } else if (kind == Plan.GO) {
+                    goTo(plan.numbers[step]);
                 } else {
                     doStep(kind, plan.numbers[step]);
                 }
@@ -1923,9 +1925,6 @@ public final class GrievingCamels {
 
         private void doStep(int kind, int number) {
             switch (kind) {
-                case Plan.GO:
-                    goTo(number);
-                    break;
                 case Plan.WAIT:
                     hours += number;
                     break;
@@ -1957,7 +1956,7 @@ public final class GrievingCamels {
                 return;
             }
             here = place;
-            hours += road + land.haltAt(place, rope, herd);
+            hours += road + land.law.haltOf(rope, herd.griefs, here * MOST_CAMELS, land.neededAt(here));
             herd.comesTo(land, place, rope);
         }
 
@@ -1977,7 +1976,7 @@ public final class GrievingCamels {
             switch (kind) {
                 case Plan.HERE: return here;
                 case Plan.HOURS: return hours;
-                case Plan.HALT: return land.haltAt(here, rope, herd);
+                case Plan.HALT: return land.law.haltOf(rope, herd.griefs, here * MOST_CAMELS, land.neededAt(here));
                 case Plan.ROW: return rope.many;
                 case Plan.LOST: return lost;
                 // The step that asks has begun, but is not done.
