@@ -1304,7 +1304,6 @@ public final class GrievingCamels {
 
         /** False if a digit is not below the end. */
         boolean takeDigits(int digits, long number, int end) {
-            empty();
             long left = number;
             for (int i = Math.min(digits, items.length) - 1; i >= 0; i--) {
                 int digit = (int) (left % 10);
@@ -1614,6 +1613,10 @@ public final class GrievingCamels {
         private static final int STEPS = 6;
         private static final int GRIEF = 7;
 
+        private static final int LESS = 0;
+        private static final int MORE = 1;
+        private static final int ALIKE = 2;
+
         final int[] kinds = new int[MOST_STEPS];
         final int[] numbers = new int[MOST_STEPS];
         final int[] nexts = new int[MOST_STEPS];
@@ -1747,12 +1750,12 @@ public final class GrievingCamels {
 
         private int readRelation(Tape tape) {
             if (tape.takesSign('<')) {
-                return '<';
+                return LESS;
             }
             if (tape.takesSign('>')) {
-                return '>';
+                return MORE;
             }
-            return tape.takesSign('=') ? '=' : NONE;
+            return tape.takesSign('=') ? ALIKE : NONE;
         }
 
         private boolean readTerm(Tape tape, Land land, int sign) {
@@ -1966,8 +1969,8 @@ public final class GrievingCamels {
                 more += plan.termSigns[i] * valueOf(plan.termKinds[i], plan.termNumbers[i]);
             }
             switch (plan.relations[step]) {
-                case '<': return more < 0;
-                case '>': return more > 0;
+                case Plan.LESS: return more < 0;
+                case Plan.MORE: return more > 0;
                 default: return more == 0;
             }
         }
@@ -2035,7 +2038,9 @@ public final class GrievingCamels {
             int here = from;
             for (int i = 0; i < MOST_PLACES && here != to && here >= 0; i++) {
                 here = nextOn(land, here, to);
-                way.add(here);
+                if (here >= 0) {
+                    way.add(here);
+                }
             }
         }
 
@@ -2157,7 +2162,6 @@ public final class GrievingCamels {
                     guessFrom(camel + 1, digits * 6 + hours);
                 }
             }
-            guess[camel] = 0;
         }
 
         /** Whether the lines whose last guessed camel this one is are so. */

@@ -69,6 +69,7 @@ public final class PromisesTest {
         Checks.are(46, "quarrel", new long[] {x.quarrel(0, 2) ? 1 : 0, x.quarrel(2, 0) ? 1 : 0,
             x.quarrel(0, 1) ? 1 : 0}, 1, 1, 0);
         Checks.element(46, "quarrel(0, 3)", () -> x.quarrel(0, 3) ? 1 : 0);
+        Checks.element(46, "quarrel(3, 0)", () -> x.quarrel(3, 0) ? 1 : 0);
         Checks.element(46, "quarrel(-1, -1)", () -> x.quarrel(-1, -1) ? 1 : 0);
         Checks.argument(46, "quarrel(1, 1)", () -> x.quarrel(1, 1) ? 1 : 0);
     }
@@ -137,6 +138,7 @@ public final class PromisesTest {
         for (int i = 0; i < all.length; i++) {
             Checks.is(14, "halt by " + all[i], haltBy(all[i], 12), due[i]);
         }
+        Checks.is(14, "the last law counts", haltBy("most;law 2+many", 12), 4);
         Checks.is(14, "first of 1 2 0", haltBy("first", 120), 5);
         Checks.is(14, "last of 1 2 0", haltBy("last", 120), 3);
         GrievingCamels x = Checks.in("place 0;place 3;camel 0;camel 0;camel 0;camel 0;hurt 0 1 4;hurt 2 1 9;law 7+many;");
@@ -187,6 +189,10 @@ public final class PromisesTest {
                 0, 6, 4, 0, -1, -1);
         Checks.are(21, "whose", new long[] {x.whose(0), x.whose(1), x.whose(2), x.whose(3), x.whose(4), x.whose(-1)},
                 -1, 0, 1, 2, -1, -1);
+        GrievingCamels h = Checks.in(FOUR);
+        h.route(4, 123);
+        h.soothe(1, 0);
+        Checks.is(48, "heavy, asked first", h.heavy(), 2);
         Checks.is(48, "heavy", x.heavy(), 1);
         Checks.is(17, "twelve places", x.route(12, 10101010101L), 44);
         Checks.is(18, "the last one", x.at(11), 1);
@@ -199,8 +205,15 @@ public final class PromisesTest {
         Checks.is(48, "heavy, of these the first", y.heavy(), 1);
         y.route(4, 1212);
         Checks.is(48, "heavy behind", y.heavy(), 2);
+        y.route(2, 12);
+        Checks.are(20, "behind a shorter one", new long[] {y.at(1), y.at(2), y.stop(1), y.stop(2), y.whose(1), y.whose(2),
+            y.heavy()}, 2, -1, 3, -1, 2, -1, 1);
+        y.string(2, 10);
+        Checks.are(21, "by a shorter string", new long[] {y.whose(1), y.hurt(2, 1, 1), y.whose(1)}, 0, 1, 0);
+        y.string(1, 1);
+        Checks.are(21, "a grief of 1", new long[] {y.whose(1), y.stop(1)}, 1, 1);
         y.string(0, 0);
-        Checks.are(48, "none halts", new long[] {y.heavy(), y.whose(1), y.hours(0)}, 1, -1, 3);
+        Checks.are(48, "none halts", new long[] {y.heavy(), y.whose(1), y.hours(0)}, 1, -1, 1);
     }
 
     private static void learning() {
@@ -222,6 +235,17 @@ public final class PromisesTest {
         y.string(3, 12);
         y.go();
         Checks.are(22, "only if that is more", griefsAt(y, 1), 9, 5, 2);
+        GrievingCamels w = Checks.in(land);
+        w.route(2, 1);
+        w.string(3, 12);
+        w.string(2, 12);
+        w.string(1, 0);
+        w.go();
+        Checks.are(22, "no calf that was of the row", griefsAt(w, 1), 9, 0, 0);
+        w.string(3, 12);
+        w.string(2, 10);
+        w.go();
+        Checks.are(22, "a calf ahead of its mother", griefsAt(w, 1), 9, 4, 0);
         GrievingCamels z = Checks.in(land);
         z.route(2, 10);
         z.go();
@@ -254,6 +278,14 @@ public final class PromisesTest {
         x.go();
         Checks.are(22, "to the depth at most", new long[] {x.grief(1, 0, 0), x.grief(2, 1, 0), x.grief(2, 2, 0),
             x.grief(2, 1, 1)}, 3, 5, 7, 5);
+        GrievingCamels z = Checks.in("place 0;place 1;place 2;road 0 1 1;road 1 2 1;camel 0;camel 0;hurt 1 0 4;");
+        z.route(3, 210);
+        z.soothe(0, 1);
+        z.hurt(0, 1, 2);
+        z.go();
+        z.route(2, 12);
+        z.go();
+        Checks.is(22, "salt, in place 0", z.grief(0, 1, 0), 2);
         GrievingCamels y = Checks.in("place 0;place 1;road 0 1 1;camel 0;camel 0;calf 1 0;hurt 0 1 2;");
         y.route(2, 1);
         y.go();
@@ -465,6 +497,8 @@ public final class PromisesTest {
         Checks.are(31, "that one", explained(y), 1, 38880, 1, 62);
         y.lay(64, 11);
         Checks.are(31, "camel 6 has none", explained(y), 0, -1, 0, 0);
+        Checks.land(y, "camel 0;camel 0;");
+        Checks.are(31, "another land", explained(y), 36, 0, 0, 0);
         GrievingCamels z = Checks.in("place 3;camel 0;");
         z.lay(1, 2);
         Checks.are(31, "a mirage is not in question", explained(z), 1, 2, 1, 0);
@@ -490,6 +524,8 @@ public final class PromisesTest {
         Checks.argument(32, "compared(-2, 1)", () -> x.compared(-2, 1));
         GrievingCamels y = Checks.in("place 0;camel 0;camel 0;hurt 0 0 5;hurt 1 0 2;");
         Checks.is(32, "half is cut", y.compared(1, 2), 0);
+        y.hurt(0, 0, 1);
+        Checks.is(32, "in place 0, too", y.compared(2, 1), 1);
     }
 
     private static void races() {
@@ -500,6 +536,8 @@ public final class PromisesTest {
         Checks.are(33, "race", new long[] {x.race(0), x.race(6), x.race(7), x.race(10), x.race(11), x.race(99)},
                 1, 1, 2, 2, -1, -1);
         Checks.argument(33, "race(-1)", () -> x.race(-1));
+        x.route(2, 1);
+        Checks.are(33, "a shorter journey", new long[] {x.race(6), x.race(7)}, 1, -1);
         x.string(0, 0);
         Checks.are(33, "without halts", new long[] {x.race(0), x.race(1)}, 1, -1);
     }
@@ -530,6 +568,9 @@ public final class PromisesTest {
             Checks.are(35, "span of " + seed, new long[] {x.span(seed, 4, 10, 0), x.span(seed, 4, 10, 1),
                 x.span(seed, 4, 10, 2)}, least, greatest, all);
         }
+        GrievingCamels y = Checks.in(FOUR);
+        y.route(4, 123);
+        Checks.is(35, "span, asked first", y.span(5, 0, 1, 1), 19);
         Checks.are(35, "one seed, sixty seeds", new long[] {x.span(5, 8, 1, 2), x.span(5, 8, 60, 2)}, 22, 1320);
         Checks.argument(35, "span(5, 9, 3, 2)", () -> x.span(5, 9, 3, 2));
         Checks.argument(35, "no seed", () -> x.span(5, 8, 0, 2));
@@ -671,6 +712,10 @@ public final class PromisesTest {
         Checks.argument(49, "light(-1)", () -> x.light(-1));
         x.string(2, 21);
         Checks.are(49, "of the string alone", new long[] {x.light(6), x.light(5), x.light(4), x.light(1)}, 0, 2, 2, 6);
+        GrievingCamels z = Checks.in("place 0;place 0;road 0 1 1;camel 0;camel 0;camel 0;hurt 0 1 2;hurt 1 1 2;"
+            + "hurt 2 1 4;law sum;");
+        z.route(2, 1);
+        Checks.are(49, "the fewest, not the least bits", new long[] {z.light(5), z.light(4), z.light(3)}, 4, 5, 5);
         GrievingCamels y = Checks.in("place 0;place 0;road 0 1 1;camel 0;camel 0;camel 0;hurt 2 1 3;hurt 1 1 3;law sum;");
         y.route(2, 1);
         y.string(3, 210);
@@ -689,9 +734,12 @@ public final class PromisesTest {
         x.hurt(0, 0, 4);
         x.soothe(1, 0);
         x.clear();
-        x.lay(1, 0);
+        x.lay(2, 0);
         x.route(3, 101);
         x.string(3, 210);
+        x.undo();
+        x.hurt(0, 1, 6);
+        x.go();
         x.undo();
         Checks.is(50, "image", x.image(), 2);
         Checks.is(50, "image", x.image(), 3);
@@ -709,7 +757,9 @@ public final class PromisesTest {
             x.at(0), x.at(1), x.grief(0, 0, 0), x.grief(0, 0, 1), x.grief(1, 0, 0), x.explain(1)},
                 2, 2, 2, 1, 2, 0, 0, 1, 0, 0, 5, 2 * 36 + 2 * 6);
         Checks.are(51, "what no image keeps", new long[] {x.run(0, 0), x.count(1), x.status(2), x.count(0)}, 3, 20, 1, 0);
+        x.hurt(0, 2, 3);
         Checks.is(51, "what can be undone", x.undo(), 0);
+        Checks.are(51, "as it was then", new long[] {x.grief(0, 1, 0), x.grief(0, 2, 0), x.grief(1, 0, 0)}, 0, 0, 5);
         Checks.is(51, "restore of nothing then", x.restore(), -1);
         Checks.are(53, "count", new long[] {x.count(0), x.count(1), x.count(2), x.count(3), x.count(-1), x.count(MIN)},
                 0, 20, 0, -1, -1, -1);

@@ -100,6 +100,9 @@ public final class TextsTest {
         bad("place 4;", -8, 6);
         bad("  place   4;", -8, 10);
         bad("places 1;", -9, 0);
+        bad("placea 1;", -9, 0);
+        bad("placez 1;", -9, 0);
+        bad("zlace 1;", -9, 0);
         bad("place x;", -9, 6);
         bad("place -1;", -9, 6);
         bad("place 99999999999999999999;", -8, 6);
@@ -198,6 +201,19 @@ public final class TextsTest {
         Checks.is(3, "no road is left", Checks.land(x, TWO + "camel 1;camel 1;"), 2);
         Checks.is(3, "that road", x.road(0, 1), -1);
         Checks.is(3, "the mother of none", x.camel(0, 1), -1);
+        landsInTurn();
+    }
+
+    private static void landsInTurn() {
+        String rich = TWO + "road 0 1 2;camel 5;camel 6;hurt 0 0 4;hurt 1 1 3;calf 0 1;quarrel 0 1;law 50;";
+        GrievingCamels x = Checks.in(rich);
+        for (int i = 0; i < 3; i++) {
+            Checks.land(x, TWO + "camel 5;camel 6;");
+            Checks.are(3, "nothing of the land before", new long[] {x.road(0, 1), x.camel(0, 1), x.quarrel(0, 1) ? 1 : 0,
+                x.quarrel(1, 0) ? 1 : 0, x.shy(), x.grief(0, 0, 0), x.grief(1, 1, 1), x.hurt(1, 1, 7), x.halt(1)},
+                    -1, -1, 0, 0, 0, 0, 0, 7, 7);
+            Checks.land(x, i == 0 ? rich : i == 1 ? rich + "x" : "place 0;" + rich + "camel 1;camel 2;");
+        }
     }
 
     private static void goodPlan(String text, int steps) {
@@ -294,5 +310,11 @@ public final class TextsTest {
         Checks.is(36, "plan(0)", x.plan(0), 0);
         Checks.is(36, "no steps", x.run(0, 3), 0);
         Checks.is(36, "the land stays", x.told(0), 2);
+        for (int i = 0; i < 9; i++) {
+            Checks.is(36, "a long test, again", Checks.plan(x, "if 1" + "+1".repeat(90) + "=91[wait 1;];"), 2);
+            Checks.is(36, "it is so", x.run(0, 0), 1);
+            Checks.is(36, "a block without steps, where one had some", Checks.plan(x, "if 1=1[]else[];wait 1;"), 2);
+            Checks.is(36, "nothing of the plan before", x.run(0, 3), 2);
+        }
     }
 }
