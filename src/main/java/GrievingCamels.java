@@ -1302,10 +1302,14 @@ public final class GrievingCamels {
             }
         }
 
-        /** False if a digit is not below the end. */
+        /** False if a digit is not below the end, or the number has more digits than are asked for. */
         boolean takeDigits(int digits, long number, int end) {
+            empty();
+            if (digits < 0 || digits > items.length) {
+                return false;
+            }
             long left = number;
-            for (int i = Math.min(digits, items.length) - 1; i >= 0; i--) {
+            for (int i = digits - 1; i >= 0; i--) {
                 int digit = (int) (left % 10);
                 if (digit < 0 || digit >= end) {
                     return false;
@@ -1313,8 +1317,8 @@ public final class GrievingCamels {
                 items[i] = digit;
                 left /= 10;
             }
-            many = Math.max(0, Math.min(digits, items.length));
-            return true;
+            many = digits;
+            return left == 0;
         }
 
         boolean holdsOneTwice() {

@@ -174,6 +174,11 @@ public final class ModelTest {
             }
         }
         call("route", Math.max(2, many), digits);
+        if (texts.oneOf(6)) {
+            // One place less than there are digits: mostly its end alone would be joined all along.
+            call("route", Math.max(2, many - 1), digits);
+            call("route", Math.max(2, many), digits + power(Math.max(2, many)));
+        }
     }
 
     private Object[] argsOf(Method m) {
@@ -199,7 +204,19 @@ public final class ModelTest {
         for (int i = 0; i < many && i < left.size(); i++) {
             digits = digits * 10 + left.get(i);
         }
-        return texts.oneOf(12) ? digits + 1 : digits;
+        if (texts.oneOf(12)) {
+            return digits + 1;
+        }
+        // A digit too many, ahead of a row that would do without it.
+        return texts.oneOf(12) ? digits + (1 + texts.upTo(8)) * power(many + texts.upTo(3)) : digits;
+    }
+
+    private static long power(int of) {
+        long power = 1;
+        for (int i = 0; i < Math.min(of, 18); i++) {
+            power *= 10;
+        }
+        return power;
     }
 
     private int intFor(String name, int i) {

@@ -177,11 +177,15 @@ public final class NaiveCamels {
         return n;
     }
 
+    /** Null: the number, written with so many digits, is another one. */
     private static List<Integer> fromDigits(int many, long n) {
+        String digits = n == 0 ? "" : Long.toString(n);
+        if (n < 0 || digits.length() > many) {
+            return null;
+        }
         List<Integer> row = new ArrayList<>();
-        for (int i = 0; i < many; i++) {
-            row.add(0, (int) (n % 10));
-            n /= 10;
+        for (char digit : ("0".repeat(many - digits.length()) + digits).toCharArray()) {
+            row.add(digit - '0');
         }
         return row;
     }
@@ -729,7 +733,7 @@ public final class NaiveCamels {
     public int string(int many, long row) {
         arg(in(many, 0, 8));
         List<Integer> told = fromDigits(many, row);
-        if (told.stream().anyMatch(c -> c < 0 || c >= world.prices.size())
+        if (told == null || told.stream().anyMatch(c -> c < 0 || c >= world.prices.size())
                 || told.stream().distinct().count() < many) {
             return 0;
         }
@@ -762,6 +766,9 @@ public final class NaiveCamels {
     public int route(int many, long places) {
         arg(in(many, 2, 12));
         List<Integer> told = fromDigits(many, places);
+        if (told == null) {
+            return -1;
+        }
         int hours = 0;
         for (int i = 0; i < many; i++) {
             if (!in(told.get(i), 0, world.kinds.size() - 1)) {

@@ -115,6 +115,15 @@ public final class PromisesTest {
         Checks.is(12, "one is none", x.string(2, 14), 0);
         Checks.is(12, "more than there are", x.string(5, 1234), 0);
         Checks.is(12, "below 0", x.string(2, -12), 0);
+        Checks.is(12, "below 0, its last digit 0", x.string(1, -10), 0);
+        Checks.is(12, "a digit too many", x.string(2, 123), 0);
+        Checks.is(12, "a digit too many, a zero behind it", x.string(2, 101), 0);
+        Checks.is(12, "far too many digits", x.string(2, 1000000000000000012L), 0);
+        Checks.is(12, "the least number", x.string(1, Long.MIN_VALUE), 0);
+        Checks.is(12, "the greatest number", x.string(8, Long.MAX_VALUE), 0);
+        Checks.is(12, "digits of no camels", x.string(0, 1), 0);
+        Checks.is(12, "digits below 0 of no camels", x.string(0, -1), 0);
+        Checks.is(12, "two digits of no camels", x.string(0, 10), 0);
         Checks.are(12, "it stays", new long[] {x.told(2), x.row(0)}, 3, 0);
         Checks.argument(12, "string(-1)", () -> x.string(-1, 0));
         Checks.argument(12, "string(9)", () -> x.string(9, 0));
@@ -122,6 +131,7 @@ public final class PromisesTest {
         Checks.are(12, "an empty row", new long[] {x.told(2), x.row(0), x.shy()}, 0, -1, 0);
         GrievingCamels y = Checks.in("camel 1;".repeat(8));
         Checks.is(12, "all eight", y.string(8, 76543210L), 1);
+        Checks.is(12, "nine digits of eight", y.string(8, 176543210L), 0);
         Checks.are(12, "turned round", new long[] {y.row(0), y.row(7), y.row(8)}, 7, 0, -1);
     }
 
@@ -179,6 +189,11 @@ public final class PromisesTest {
         Checks.is(17, "no place", x.route(2, 14), -1);
         Checks.is(17, "twice the same", x.route(2, 11), -1);
         Checks.is(17, "below 0", x.route(2, -10), -1);
+        Checks.is(17, "a digit too many", x.route(2, 123), -1);
+        Checks.is(17, "a digit too many, ahead of a zero", x.route(2, 101), -1);
+        Checks.is(17, "far too many digits", x.route(2, 1000000000000000012L), -1);
+        Checks.is(17, "the least number", x.route(2, Long.MIN_VALUE), -1);
+        Checks.is(17, "thirteen digits of twelve", x.route(12, 1010101010101L), -1);
         Checks.is(17, "it stays", x.told(3), 4);
         Checks.argument(17, "one place", () -> x.route(1, 0));
         Checks.argument(17, "13 places", () -> x.route(13, 0));
