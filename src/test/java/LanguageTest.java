@@ -159,11 +159,11 @@ public final class LanguageTest {
             (com.sun.management.ThreadMXBean) java.lang.management.ManagementFactory.getThreadMXBean();
         long before = bean.getCurrentThreadAllocatedBytes();
         // All calls but those of texts, so often that there are not quite 512 of them.
-        for (int i = 0; i < 9; i++) {
+        for (int i = 0; i < 8; i++) {
             sum += many(x, i);
         }
         long made = bean.getCurrentThreadAllocatedBytes() - before;
-        same("made by 9 times all calls, " + made + " (" + sum + ")", made < 20000000, true);
+        same("made by 8 times all calls, " + made + " (" + sum + ")", made < 20000000, true);
     }
 
     private static long many(GrievingCamels x, int i) {

@@ -548,7 +548,10 @@ public final class TextEdgesTest {
         Checks.is(4, "a bad land", x.fault(), 8);
         Checks.argument(4, "a refused one is no text", () -> x.land(99));
         Checks.argument(4, "a refused plan is no text", () -> x.plan(99));
+        Checks.feed(x, "place 1;");
         Checks.is(4, "it is so yet", x.fault(), 8);
+        x.plan(0);
+        Checks.is(4, "a text of no bytes", x.fault(), -1);
         Checks.is(4, "a good plan", Checks.plan(x, "wait 1;"), 1);
         Checks.is(4, "the latest text is a plan", x.fault(), -1);
         Checks.plan(x, "wait 1;feed;y");
