@@ -34,9 +34,7 @@ public final class GrievingCamels {
     private final State now = new State();
     private final State[] images = new State[MOST_IMAGES];
     private final Trip trip = new Trip();
-    private final Runner runner = new Runner();
     private final Ways ways = new Ways();
-    private final Explainer explainer = new Explainer();
     private final Row chosen = new Row();
     private final Row best = new Row();
     private final Herd healed = new Herd();
@@ -44,6 +42,8 @@ public final class GrievingCamels {
     private Land spareLand = new Land();
     private Plan plan = new Plan();
     private Plan sparePlan = new Plan();
+    private final Runner runner = new Runner(land, plan);
+    private final Explainer explainer = new Explainer(land, now);
     private int imageCount = 0;
 
     public GrievingCamels() {
@@ -476,7 +476,7 @@ public final class GrievingCamels {
 
     public int explain(int what) throws IllegalArgumentException {
         needWhat(what, 3);
-        explainer.explainAll(land, now);
+        explainer.explainAll(land);
         switch (what) {
             case 0: return explainer.found;
             case 1: return explainer.first;
@@ -1856,13 +1856,18 @@ public final class GrievingCamels {
 
         final Herd herd = new Herd();
         final Row rope = new Row();
-        private Land land = null;
-        private Plan plan = null;
+        private Land land;
+        private Plan plan;
         int here = 0;
         int hours = 0;
         int lost = 0;
         int steps = 0;
         boolean worn = false;
+
+        Runner(Land land, Plan plan) {
+            this.land = land;
+            this.plan = plan;
+        }
 
         void runFrom(Land inLand, Plan byPlan, State state, int from) {
             land = inLand;
@@ -2101,8 +2106,8 @@ public final class GrievingCamels {
         /** The highest guessed camel of each line: as soon as it is guessed, the line can be looked at. */
         final int[] lastOf = new int[MOST_LINES];
         final int[] guess = new int[MOST_CAMELS];
-        private Land land = null;
-        private State state = null;
+        private final State state;
+        private Land land;
         int guessed = 0;
         boolean stale = true;
         int found = 0;
@@ -2110,19 +2115,20 @@ public final class GrievingCamels {
         int always = 0;
         int ever = 0;
 
-        Explainer() {
+        Explainer(Land land, State state) {
+            this.land = land;
+            this.state = state;
             for (int i = 0; i < MOST_LINES; i++) {
                 rows[i] = new Row();
             }
         }
 
-        void explainAll(Land inLand, State inState) {
+        void explainAll(Land inLand) {
             if (!stale) {
                 return;
             }
             stale = false;
             land = inLand;
-            state = inState;
             guessed = Math.min(MOST_GUESSED, land.camels);
             found = 0;
             first = NONE;
